@@ -36,7 +36,11 @@ public final class ModelTest {
     }
 
     private static int stackOffset() {
-        return below(25) == 0 ? -512 + below(9) : below(25) == 0 ? 1 - below(10) : -8 * (1 + below(4)) + (below(3) == 0 ? below(8) : 0);
+        if (below(25) == 0) {
+            return 1 - below(10);
+        }
+        int eight = below(8) == 0 ? -512 : -8 * (1 + below(4));
+        return eight + (below(3) == 0 ? below(8) : 0);
     }
 
     private static long candidate() {

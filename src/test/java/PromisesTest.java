@@ -160,17 +160,32 @@ public final class PromisesTest {
         due("verify", x.verify(), 1);
         due("fault at 0", x.fault(), 0);
         due("verified before, not now", isVerified(x), 0);
+        dueNothingLeft();
         // The FORM of all WORDS comes before the STATES of any.
         Asm.load(x, Asm.alu(0, 4, 1), Asm.set(0, 1), 0xFF, Asm.EXIT);
         due("form first", x.verify(), 1);
         due("form first: where", x.fault(), 2);
     }
 
+    /** A verify begins anew, whatever the one before it had found. */
+    private static void dueNothingLeft() {
+        WordJudge x = verified(8, Asm.set(0, 1), Asm.set(2, 5), Asm.store(8, 10, -8, 2), Asm.EXIT);
+        due("come to", x.count(3), 4);
+        Asm.load(x, Asm.set(0, 1), Asm.alu(0, 2, 1), Asm.EXIT);
+        due("registers of the verify before", x.verify(), 6);
+        Asm.load(x, Asm.set(0, 1), Asm.read(8, 2, 10, -8), Asm.EXIT);
+        due("octets of the verify before", x.verify(), 12);
+        Asm.load(x, Asm.set(0, 1), Asm.go(1), Asm.alu(0, 2, 1), Asm.EXIT);
+        due("ways of the verify before", x.verify(), 0);
+        due("come to again", x.count(3), 3);
+    }
+
     private static void promise8() {
         WordJudge x = verified(16, Asm.set(0, -7), Asm.go(1), Asm.set(0, 0), Asm.wide(2, 1L << 40),
             Asm.second(1L << 40), Asm.move(3, 10), Asm.alu(0, 3, -16), Asm.read(1, 4, 1, 0), Asm.aluS(0, 1, 4),
             Asm.EXIT);
-        long[][] want = {{0, 0, 0, 0, 0}, {0, 1, 2, 0, 0}, {0, 10, 3, 0, 0}, {1, 0, 1, -7, -7}, {5, 2, 1, 1L << 40, 1L << 40},
+        long[][] want = {{0, 0, 0, 0, 0}, {0, 1, 2, 0, 0}, {0, 10, 3, 0, 0}, {1, 0, 1, -7, -7},
+            {5, 2, 1, 1L << 40, 1L << 40},
             {7, 3, 3, -16, -16}, {8, 4, 1, 0, 255}, {9, 1, 2, 0, 255}, {9, 9, 0, 0, 0}};
         for (long[] w : want) {
             for (int what = 0; what < 3; what++) {

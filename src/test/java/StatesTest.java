@@ -173,6 +173,10 @@ public final class StatesTest {
         dueState("kept number overwritten in part", x, 4, 3, 1, MIN, MAX);
         wrong("kept pointer overwritten in part", 12, 8, Asm.store(8, 10, -8, 1), Asm.storeImm(1, 10, -1, 0),
             Asm.read(1, 3, 10, -2));
+        for (int octet = -8; octet < -1; octet++) {
+            wrong("the other octets of an overwritten pointer", 12, 8, Asm.store(8, 10, -8, 1),
+                Asm.storeImm(1, 10, -1, 0), Asm.read(1, 3, 10, octet));
+        }
         right("what overwrote a kept pointer", 8, Asm.store(8, 10, -8, 1), Asm.storeImm(2, 10, -2, 0),
             Asm.read(2, 3, 10, -2));
         wrong("two kept pointers overwritten, first", 12, 8, Asm.store(8, 10, -16, 1), Asm.store(8, 10, -8, 10),
@@ -268,6 +272,14 @@ public final class StatesTest {
         dueLost("set and pointer", eight, keepContext, Asm.read(4, 4, 10, -4));
         dueLost("context and stack", keepContext, keepStack, whole);
         dueLost("set and nothing", eight, ways(), Asm.read(1, 4, 10, -8));
+        dueLost("the first octet, set and nothing", ways(Asm.storeImm(1, 10, -512, 1)), ways(),
+            Asm.read(1, 4, 10, -512));
+        dueLost("the first eight, pointer and set", ways(Asm.store(8, 10, -512, 1)),
+            ways(Asm.storeImm(8, 10, -512, 1)), Asm.read(1, 4, 10, -512));
+        dueLost("the first eight, set and pointer", ways(Asm.storeImm(8, 10, -512, 1)),
+            ways(Asm.store(8, 10, -512, 1)), Asm.read(1, 4, 10, -505));
+        dueKept("the first eight", ways(Asm.store(8, 10, -512, 1)), ways(Asm.store(8, 10, -512, 1)),
+            Asm.read(8, 4, 10, -512), 2, 0, 0);
         // The other eights are as they were.
         WordJudge x = due("beside", 0, -1, 1, meet(
             ways(Asm.storeImm(8, 10, -16, 1), Asm.store(8, 10, -8, 1), Asm.storeImm(8, 10, -24, 1)),
