@@ -4,8 +4,8 @@ public final class MachineTest {
     private static final long MIN = Long.MIN_VALUE;
     private static final long MAX = Long.MAX_VALUE;
     private static final long M32 = (1L << 32) - 1;
-    private static final long[] EDGES = {0, 1, 2, 3, 7, 31, 32, 33, 63, 64, 255, 0x7FFFFFFFL, 0x80000000L, M32, 1L << 32,
-        0x123456789ABCDEF0L, 0xFEDCBA9876543210L, -1, -2, -7, -32, -64, MIN, MIN + 1, MAX, MAX - 1, 1L << 62};
+    private static final long[] EDGES = {0, 1, 2, 3, 7, 31, 32, 33, 63, 64, 255, 0x7FFFFFFFL, 0x80000000L, M32,
+        1L << 32, 0x123456789ABCDEF0L, 0xFEDCBA9876543210L, -1, -2, -7, -32, -64, MIN, MIN + 1, MAX, MAX - 1, 1L << 62};
 
     /** R2 and R3 come from the CONTEXT, so that verifying does not know them. */
     private static long told(long w, long d, long s) {
